@@ -1,0 +1,101 @@
+/** What all tests share: told texts, compared answers, and the end of a test. */
+final class Check {
+    private int wrong;
+    private int asked;
+
+    /** Feeds a text and tells it. */
+    static int tell(HalfHands hands, String text) {
+        feedAll(hands, text);
+        return hands.text(text.length());
+    }
+
+    static void feedAll(HalfHands hands, String text) {
+        StringBuilder padded = new StringBuilder(text);
+        while (padded.length() % 20 != 0) {
+            padded.append(' ');
+        }
+        for (int i = 0; i < padded.length(); i += 20) {
+            hands.feed(four(padded, i), four(padded, i + 4), four(padded, i + 8), four(padded, i + 12),
+                    four(padded, i + 16));
+        }
+    }
+
+    private static int four(CharSequence text, int at) {
+        int number = 0;
+        for (int i = at; i < at + 4; i++) {
+            number = number << 8 | text.charAt(i);
+        }
+        return number;
+    }
+
+    static HalfHands told(String text) {
+        HalfHands hands = new HalfHands();
+        if (tell(hands, text) < 0) {
+            throw new IllegalStateException("fault " + hands.fault(0) + " at " + hands.fault(1) + " of " + text);
+        }
+        return hands;
+    }
+
+    /** A name as named() takes it. */
+    static int letters(String name) {
+        int code = 0;
+        for (int i = 0; i < 6; i++) {
+            code = code << 5 | (i < name.length() ? name.charAt(i) - 'a' + 1 : 0);
+        }
+        return code;
+    }
+
+    /** A ROW of people. */
+    static long row(int... people) {
+        long code = 0;
+        for (int i = 0; i < people.length; i++) {
+            code |= (long) people[i] << 4 * i;
+        }
+        return code;
+    }
+
+    void same(String what, long got, long due) {
+        asked++;
+        if (got != due) {
+            wrong++;
+            if (wrong <= 40) {
+                System.out.println(what + " answered " + got + ", due is " + due);
+            }
+        }
+    }
+
+    void same(String what, boolean got, boolean due) {
+        same(what, got ? 1 : 0, due ? 1 : 0);
+    }
+
+    /** Each of the answers of one row of calls. */
+    void all(String what, long[] got, long... due) {
+        same(what + ": how many", got.length, due.length);
+        for (int i = 0; i < Math.min(got.length, due.length); i++) {
+            same(what + " [" + i + "]", got[i], due[i]);
+        }
+    }
+
+    /** A text that has a FAULT. */
+    void faulty(String text, int kind, int place) {
+        HalfHands hands = new HalfHands();
+        same("text of '" + text + "'", tell(hands, text), -1);
+        same("fault(0) of '" + text + "'", hands.fault(0), kind);
+        same("fault(1) of '" + text + "'", hands.fault(1), place);
+    }
+
+    /** A text that has none. */
+    void faultless(String text, int lines) {
+        HalfHands hands = new HalfHands();
+        same("text of '" + text + "'", tell(hands, text), lines);
+        same("fault(0) of '" + text + "'", hands.fault(0), 0);
+        same("fault(1) of '" + text + "'", hands.fault(1), -1);
+    }
+
+    void end() {
+        System.out.println(asked + " answers looked at, " + wrong + " wrong");
+        if (wrong > 0) {
+            System.exit(1);
+        }
+    }
+}
