@@ -59,7 +59,6 @@ public final class HalfHands {
     private final Journey trial = new Journey(told);
     /** The ROW that the latest call told. */
     private final Row chain = new Row();
-    private final Spans spans = new Spans();
     private final Orders orders = new Orders(chain, told);
     private final Notes notes = new Notes();
 
@@ -212,27 +211,39 @@ public final class HalfHands {
         if (!isRow(n, row) || !within(t, 0, BACK_COINS)) {
             return NONE;
         }
-        spans.find(told, chain, t);
+        int least = endOfBack(t, 0);
+        int greatest = endOfBack(t, 1);
         switch (what) {
             case 0:
-                return spans.numbers;
+                return least == NONE ? 0 : greatest - least + 1;
             case 1:
-                return spans.end(0, 0);
+                return least;
             case 2:
-                return spans.end(spans.size - 1, 1);
+                return greatest;
             case 3:
-                return spans.size;
+                return least == NONE ? 0 : 1;
             default:
                 return NONE;
         }
     }
 
     public int span(int n, long row, int t, int k, int what) {
-        if (!isRow(n, row) || !within(t, 0, BACK_COINS)) {
+        if (!isRow(n, row) || !within(t, 0, BACK_COINS) || k != 0 || !within(what, 0, 1)) {
             return NONE;
         }
-        spans.find(told, chain, t);
-        return spans.end(k, what);
+        return endOfBack(t, what);
+    }
+
+    /**
+     * The least (0) or the greatest (1) number that ARRIVES as t; NONE: there is none. Of more coins never fewer
+     * ARRIVE, as 2v hands on v, and 2v and 1 hands on v or v and 1: so BACK is one SPAN.
+     */
+    private int endOfBack(int t, int which) {
+        int least = chain.leastBringing(told, t);
+        if (least > ROW_COINS) {
+            return NONE;
+        }
+        return which == 0 ? least : Math.min(chain.leastBringing(told, t + 1) - 1, ROW_COINS);
     }
 
     public int best(int n, long row, int coins, int what) {
@@ -1421,67 +1432,39 @@ public final class HalfHands {
         int arriving(Telling told, int law, int coins) {
             int left = coins;
             for (int place = 1; place < length - 1; place++) {
-                left -= shareAt(told, law, left, place);
+                left -= told.laws.share(law, left, ageAt(told, place), ageAt(told, place + 1), place, 0);
             }
             return left;
         }
 
         int keptAt(Telling told, int coins, int carrier) {
             int left = coins;
-            for (int place = 1; place < carrier; place++) {
-                left -= shareAt(told, LAW, left, place);
+            int kept = 0;
+            for (int place = 1; place <= carrier && place < length - 1; place++) {
+                kept = told.laws.share(LAW, left, ageAt(told, place), ageAt(told, place + 1), place, 0);
+                left -= kept;
             }
-            return shareAt(told, LAW, left, carrier);
+            return kept;
         }
 
-        private int shareAt(Telling told, int law, int coins, int place) {
-            int age = told.ages[people[place]];
-            int next = told.ages[people[place + 1]];
-            return told.laws.share(law, coins, age, next, place, 0);
+        private int ageAt(Telling told, int place) {
+            return told.ages[people[place]];
         }
-    }
 
-    /** The SPANS of BACK. */
-    private static final class Spans {
-        /** Of 511 numbers at most, two SPANS with a gap between them. */
-        private static final int MOST_SPANS = 256;
-
-        int numbers;
-        int size;
-        private final int[] firsts = new int[MOST_SPANS];
-        private final int[] lasts = new int[MOST_SPANS];
-
-        /** Whatever becomes of odd ones, t comes of numbers that lie less than 2 to the carriers away from its multiple. */
-        void find(Telling told, Row row, int t) {
-            numbers = 0;
-            size = 0;
-            int unit = 1 << row.carriers();
-            int low = Math.max(0, t * unit - unit + 1);
-            int high = Math.min(ROW_COINS, t * unit + unit - 1);
-            for (int coins = low; coins <= high; coins++) {
-                if (row.arriving(told, LAW, coins) == t) {
-                    add(coins);
+        /** The least number of coins of which t or more ARRIVE. */
+        int leastBringing(Telling told, int t) {
+            int unit = 1 << carriers();
+            int low = Math.max(0, (t - 1) * unit + 1);
+            int high = t * unit;
+            for (int step = 0; step <= carriers() && low < high; step++) {
+                int middle = (low + high) / 2;
+                if (arriving(told, LAW, middle) >= t) {
+                    high = middle;
+                } else {
+                    low = middle + 1;
                 }
             }
-        }
-
-        private void add(int coins) {
-            numbers++;
-            if (size > 0 && lasts[size - 1] == coins - 1) {
-                lasts[size - 1] = coins;
-            } else if (size < MOST_SPANS) {
-                firsts[size] = coins;
-                lasts[size] = coins;
-                size++;
-            }
-        }
-
-        /** The first (0) or last (1) number of a SPAN; NONE: there is none such. */
-        int end(int span, int which) {
-            if (!within(span, 0, size - 1) || !within(which, 0, 1)) {
-                return NONE;
-            }
-            return which == 0 ? firsts[span] : lasts[span];
+            return high;
         }
     }
 
