@@ -1,7 +1,7 @@
 import java.util.Arrays;
 import java.util.NoSuchElementException;
 
-/** Parcels of coins that are halved at each hand. README.md tells how to use it; the words in capitals are the document's. */
+/** Parcels of coins that are halved at each hand. The words in capitals are those of the document. */
 public final class HalfHands {
     public static final int NONE = -1;
 
@@ -1787,7 +1787,9 @@ public final class HalfHands {
 
         /** From the last one on: whether a STRIKE is STRUCK itself is settled when it is asked. */
         void markStruck() {
-            Arrays.fill(struck, false);
+            for (int i = 0; i < size; i++) {
+                struck[i] = false;
+            }
             for (int i = knownSize() - 1; i >= 0; i--) {
                 if (!struck[i] && targets[i] != NONE) {
                     struck[targets[i]] = true;

@@ -32,6 +32,7 @@ public final class LawTest {
         value("2-3<0", 1);
         value("1<1", 0);
         value("1<=1", 1);
+        value("2<=1", 0);
         value("1=1", 1);
         value("1=2", 0);
         value("1<>2", 1);

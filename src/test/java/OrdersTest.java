@@ -27,6 +27,13 @@ public final class OrdersTest {
         check.same("no carrier", hands.order(2, Check.row(4, 0), 5, 1), Check.row(4, 0));
         check.same("one carrier", hands.order(3, Check.row(4, 2, 0), 5, 0), Check.row(4, 2, 0));
         check.same("0 coins", hands.best(4, ROW, 0, 0), 0);
+        HalfHands goes = Check.told(FIVE + "law 0;");
+        check.same("the worst is the best, too", goes.best(4, ROW, 43, 1), 11);
+        check.same("its order", goes.order(4, Check.row(0, 2, 1, 3), 43, 1), ROW);
+        HalfHands stays = Check.told(FIVE + "law 1;");
+        check.same("the best is the worst, too", stays.best(4, ROW, 43, 0), 10);
+        check.same("its order", stays.order(4, Check.row(0, 2, 1, 3), 43, 0), ROW);
+        check.same("person 0 may carry", hands.order(4, Check.row(4, 1, 0, 3), 40, 0), Check.row(4, 0, 1, 3));
         check.same("what 2", hands.best(4, ROW, 43, 2), -1);
         check.same("what -1", hands.best(4, ROW, 43, -1), -1);
         check.same("what 2 of order", hands.order(4, ROW, 43, 2), -1);

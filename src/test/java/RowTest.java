@@ -46,6 +46,8 @@ public final class RowTest {
         long row = Check.row(0, 1, 2, 3);
         check.same("b", hands.keeps(4, row, 41, 1), 20);
         check.same("c", hands.keeps(4, row, 41, 2), 11);
+        check.same("c towards the elder a", hands.keeps(3, Check.row(4, 2, 0), 7, 1), 3);
+        check.same("c towards the younger e", hands.keeps(3, Check.row(0, 2, 4), 7, 1), 4);
         check.same("the sender", hands.keeps(4, row, 41, 0), -1);
         check.same("who gets", hands.keeps(4, row, 41, 3), -1);
         check.same("-1", hands.keeps(4, row, 41, -1), -1);
@@ -144,6 +146,9 @@ public final class RowTest {
         check.same("none: spans", goes.back(10, row, 3908, 3), 0);
         check.same("none: span", goes.span(10, row, 3908, 0, 0), -1);
         check.same("none of 99999", goes.back(10, row, 99999, 0), 0);
+        HalfHands one = Check.told(TEN + "law coins<>9999*100+99;");
+        check.same("999999 alone", one.back(6, 0x543210L, 62500, 0), 1);
+        check.same("is the least", one.back(6, 0x543210L, 62500, 1), 999999);
         check.same("stays: none of 3907", stays.back(10, row, 3907, 3), 0);
         check.same("stays: 3906", stays.back(10, row, 3906, 0), 999999 - 3906 * 256 + 1);
     }

@@ -8,6 +8,7 @@ public final class TapeTest {
         feeding();
         bytesOfNumbers();
         tellingEmptiesTheTape();
+        bytesBehindTheText();
         tellingBeginsAnew();
         faultLeavesAll();
         names();
@@ -83,6 +84,20 @@ public final class TapeTest {
         check.same("fault(0)", hands.fault(0), 0);
         check.same("fault(1)", hands.fault(1), -1);
         check.same("no person is left", hands.count(0), 0);
+    }
+
+    /** The text ends within what would be one token with the bytes behind it. */
+    private static void bytesBehindTheText() {
+        String[] tapes = {"personx a 1;", "person a 100;", "law 1<=2;", "person a 1;q"};
+        int[] sizes = {6, 10, 6, 11};
+        int[] places = {6, 10, 6, -1};
+        for (int i = 0; i < tapes.length; i++) {
+            HalfHands hands = new HalfHands();
+            Check.feedAll(hands, tapes[i]);
+            check.same("text of a part of " + tapes[i], hands.text(sizes[i]), places[i] < 0 ? 1 : -1);
+            check.same("its fault", hands.fault(0), places[i] < 0 ? 0 : 1);
+            check.same("its place", hands.fault(1), places[i]);
+        }
     }
 
     private static void tellingBeginsAnew() {
