@@ -1383,9 +1383,9 @@ public final class HalfHands {
         int length;
         final int[] people = new int[MOST_PEOPLE];
 
-        /** Takes a ROW from a long; false: it isn't one. */
+        /** Takes a ROW from a long, whatever its bits above those of the n PEOPLE are; false: it isn't one. */
         boolean take(int n, long code, int among) {
-            if (!within(n, 2, MOST_PEOPLE) || code >>> PERSON_BITS * n != 0) {
+            if (!within(n, 2, MOST_PEOPLE)) {
                 return false;
             }
             int seen = 0;

@@ -85,7 +85,12 @@ public final class CompareTest {
             taken[row[i]] = true;
         }
         long code = Check.row(row);
-        return random.nextInt(60) == 0 ? code | 1L << random.nextInt(64) : code;
+        switch (random.nextInt(30)) {
+            case 0: return code | 1L << random.nextInt(64);
+            case 1: return code | random.nextLong() << 4 * n;
+            case 2: return code | -1L << 4 * n;
+            default: return code;
+        }
     }
 
     private int coins() {

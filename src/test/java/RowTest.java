@@ -9,6 +9,7 @@ public final class RowTest {
         arriving();
         keeping();
         wrongRows();
+        bitsAbove();
         handsAreLeftOut();
         backs();
         backBounds();
@@ -54,7 +55,7 @@ public final class RowTest {
         check.same("no carrier", hands.keeps(2, Check.row(0, 1), 41, 1), -1);
         check.same("coins -1", hands.keeps(4, row, -1, 1), -1);
         check.same("coins 1000000", hands.keeps(4, row, 1000000, 1), -1);
-        check.same("no row", hands.keeps(3, row, 1, 1), -1);
+        check.same("no row", hands.keeps(4, Check.row(0, 1, 1, 3), 1, 1), -1);
         check.same("0 coins", hands.keeps(4, row, 0, 2), 0);
     }
 
@@ -87,10 +88,51 @@ public final class RowTest {
         wrongRow("the same one sends and gets", hands, 4, Check.row(0, 1, 2, 0));
         wrongRow("a person that there isn't", hands, 4, Check.row(0, 1, 5, 2));
         wrongRow("person 15", hands, 4, Check.row(0, 1, 2, 15));
-        wrongRow("more people than told", hands, 4, Check.row(0, 1, 2, 3, 4));
+        wrongRow("more people than there are", hands, 6, Check.row(0, 1, 2, 3, 4, 0));
         wrongRow("below 0", hands, 4, -1);
-        wrongRow("the highest bit", hands, 4, Check.row(0, 1, 2, 3) | Long.MIN_VALUE);
-        wrongRow("all people and a bit behind them", Check.told(TEN), 10, 0x9876543210L | 1L << 40);
+        wrongRow("one twice, with bits above", hands, 4, Check.row(0, 1, 2, 1) | 1L << 16);
+        wrongRow("a person that there isn't, with bits above", hands, 4, Check.row(0, 1, 5, 2) | Long.MIN_VALUE);
+    }
+
+    /** Bits above those of the n people neither refuse a call nor come back in an answer. */
+    private static void bitsAbove() {
+        String mays = "may stays 1;may goes 0;";
+        long[] above = {1, 3, 4, 15, 0x43210, 1L << 47, -1};
+        for (long bits : above) {
+            sameRow(FIVE + mays, 4, Check.row(0, 2, 1, 3), bits);
+            sameRow(FIVE + mays, 5, Check.row(4, 3, 2, 1, 0), bits);
+            sameRow(TEN + mays, 10, Check.row(0, 8, 7, 6, 5, 4, 3, 2, 1, 9), bits);
+        }
+        check.same("no carrier", Check.told(FIVE).arrives(2, 0x43210L, 7), 7);
+        check.same("the highest bit", Check.told(FIVE).arrives(2, Long.MIN_VALUE | 0x10L, 7), 7);
+    }
+
+    private static void sameRow(String text, int n, long row, long bits) {
+        HalfHands hands = Check.told(text);
+        long more = row | bits << 4 * n;
+        String what = Long.toHexString(more) + " of " + n;
+        int carrier = (int) (row >> 4 & 15);
+        int t = hands.best(n, row, 43, 0);
+        check.same(what + " arrives", hands.arrives(n, more, 43), hands.arrives(n, row, 43));
+        check.same(what + " keeps", hands.keeps(n, more, 43, 1), hands.keeps(n, row, 43, 1));
+        for (int i = 0; i < 4; i++) {
+            check.same(what + " back " + i, hands.back(n, more, t, i), hands.back(n, row, t, i));
+            check.same(what + " gains " + i, hands.gains(n, more, 43, carrier, i), hands.gains(n, row, 43, carrier, i));
+        }
+        for (int i = 0; i < 2; i++) {
+            check.same(what + " span " + i, hands.span(n, more, t, 0, i), hands.span(n, row, t, 0, i));
+            check.same(what + " best " + i, hands.best(n, more, 43, i), hands.best(n, row, 43, i));
+            check.same(what + " order " + i, hands.order(n, more, 43, i), hands.order(n, row, 43, i));
+        }
+        check.same(what + " just", hands.just(n, more, 43, t), hands.just(n, row, 43, t));
+        check.same(what + " first", hands.first(n, more, 43, t), hands.first(n, row, 43, t));
+        check.same(what + " changes", hands.changes(n, more, 43, t), hands.changes(n, row, 43, t));
+        check.same(what + " changed", hands.changed(n, more, 43, t), hands.changed(n, row, 43, t));
+        check.same(what + " worth", hands.worth(n, more, 43, 1), hands.worth(n, row, 43, 1));
+        check.same(what + " serves", hands.serves(n, more, 50), hands.serves(n, row, 50));
+        check.same(what + " apart", hands.apart(n, more, 0, 1), hands.apart(n, row, 0, 1));
+        check.same(what + " gets a note", hands.note(n, more, 1, 1, 1), 0);
+        check.same(what + " fits where the odd one goes", hands.fits() & 3, 2);
     }
 
     private static void handsAreLeftOut() {

@@ -13,7 +13,8 @@ public final class WildTest {
         5, 6, 7, 8, 9, 10, 11, 12, 15, 16, 30, 31, 32, 40, 41, 50, 63, 64, 99, 100, 256, 300, 301, 700, 999, 3000, 9999,
         99999, 100000, 999999, 1000000, 1 << 25, 1 << 30, Integer.MAX_VALUE - 1, Integer.MAX_VALUE};
     private static final long[] ROWS = {0x10, 0x210, 0x3210, 0x43210, 0x543210, 0x9876543210L, 0x123456789L, 0x3120,
-        0x0123, Long.MIN_VALUE, Long.MAX_VALUE, -1, 0};
+        0x0123, 0x123410L, -1L << 12 | 0x210, Long.MIN_VALUE | 0x3210, -1L << 40 | 0x9876543210L, Long.MIN_VALUE,
+        Long.MAX_VALUE, -1, 0};
 
     private static final Check check = new Check();
 
