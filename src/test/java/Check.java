@@ -1,5 +1,17 @@
+import java.util.NoSuchElementException;
+
 /** What all tests share: told texts, compared answers, and the end of a test. */
 final class Check {
+    /** What look() answers here when it throws. */
+    static final int OUT_OF_BOUNDS = -101;
+    static final int NO_SUCH = -102;
+    private static final int OTHERWISE = -103;
+
+    /** A call with one number of its arguments left open. */
+    interface Asked {
+        long with(int number);
+    }
+
     private int wrong;
     private int asked;
 
@@ -76,12 +88,78 @@ final class Check {
         }
     }
 
+    /**
+     * A number that may be low .. high: refused one step below and above, and far from it; not refused at the
+     * ends and one step within them.
+     */
+    void bounds(String what, int low, int high, long refused, Asked call) {
+        for (int number : new int[] {Integer.MIN_VALUE, low - 1, high + 1, Integer.MAX_VALUE}) {
+            same(what + " " + number, call.with(number), refused);
+        }
+        for (int number : new int[] {low, low + 1, high - 1, high}) {
+            if (number >= low && number <= high) {
+                same(what + " " + number + " is refused", call.with(number) == refused, false);
+            }
+        }
+    }
+
+    /** look() with numbers for its exceptions; one that the machine throws is neither of them. */
+    static int look(HalfHands hands, int person, int what) {
+        try {
+            return hands.look(person, what);
+        } catch (RuntimeException e) {
+            return e.getClass() == IndexOutOfBoundsException.class ? OUT_OF_BOUNDS
+                    : e.getClass() == NoSuchElementException.class ? NO_SUCH : OTHERWISE;
+        }
+    }
+
+    /** All of a PERSON, 0 to 6. */
+    static long[] person(HalfHands hands, int person) {
+        long[] all = new long[7];
+        for (int what = 0; what < 7; what++) {
+            all[what] = look(hands, person, what);
+        }
+        return all;
+    }
+
+    /** All of a PARCEL, 0 to 6. */
+    static long[] parcel(HalfHands hands, int parcel) {
+        long[] all = new long[7];
+        for (int what = 0; what < 7; what++) {
+            all[what] = hands.parcel(parcel, what);
+        }
+        return all;
+    }
+
+    /** A text over and over. */
+    static String times(int n, String text) {
+        StringBuilder all = new StringBuilder();
+        for (int i = 0; i < n; i++) {
+            all.append(text);
+        }
+        return all.toString();
+    }
+
+    /** The first n PEOPLE a, b, .. of one age each. */
+    static String people(int n) {
+        StringBuilder text = new StringBuilder();
+        for (int i = 0; i < n; i++) {
+            text.append("person ").append((char) ('a' + i)).append(' ').append(10 + i).append(';');
+        }
+        return text.toString();
+    }
+
     /** A text that has a FAULT. */
     void faulty(String text, int kind, int place) {
         HalfHands hands = new HalfHands();
         same("text of '" + text + "'", tell(hands, text), -1);
         same("fault(0) of '" + text + "'", hands.fault(0), kind);
         same("fault(1) of '" + text + "'", hands.fault(1), place);
+    }
+
+    /** A text that has a FAULT at the place that is marked by '^'. */
+    void marked(int kind, String text) {
+        faulty(text.replace("^", ""), kind, text.indexOf('^'));
     }
 
     /** A text that has none. */

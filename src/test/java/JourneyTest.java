@@ -1,10 +1,6 @@
-import java.util.NoSuchElementException;
-
 /** Promises 6 to 11: look, hours, send, parcel, coins, rest. */
 public final class JourneyTest {
     private static final Check check = new Check();
-    private static final int OUT_OF_BOUNDS = -101;
-    private static final int NO_SUCH = -102;
 
     public static void main(String[] args) {
         looking();
@@ -21,69 +17,44 @@ public final class JourneyTest {
         check.end();
     }
 
-    private static int look(HalfHands hands, int person, int what) {
-        try {
-            return hands.look(person, what);
-        } catch (IndexOutOfBoundsException e) {
-            return OUT_OF_BOUNDS;
-        } catch (NoSuchElementException e) {
-            return NO_SUCH;
-        }
-    }
-
-    /** All of a PARCEL, 0 to 6. */
-    private static long[] parcel(HalfHands hands, int parcel) {
-        long[] all = new long[7];
-        for (int what = 0; what < 7; what++) {
-            all[what] = hands.parcel(parcel, what);
-        }
-        return all;
-    }
-
     private static void looking() {
         HalfHands hands = Check.told("person a 5;person b 99 purse 77;person c 0;person d 3;"
                 + "hands a to d or b or c;hands b to a;");
-        long[] a = new long[7];
-        long[] b = new long[7];
-        for (int what = 0; what < 7; what++) {
-            a[what] = look(hands, 0, what);
-            b[what] = look(hands, 1, what);
-        }
-        check.all("a", a, 5, 0, 3, 3, 1, 2, 0);
-        check.all("b", b, 99, 77, 1, 0, -1, -1, 0);
-        check.same("c hands to", look(hands, 2, 3), -1);
-        check.same("c hands next", look(hands, 2, 6), 0);
-        check.same("what 7", look(hands, 0, 7), NO_SUCH);
-        check.same("what -1", look(hands, 0, -1), NO_SUCH);
-        check.same("person 4", look(hands, 4, 0), OUT_OF_BOUNDS);
-        check.same("person -1", look(hands, -1, 0), OUT_OF_BOUNDS);
-        check.same("both wrong", look(hands, 4, 7), OUT_OF_BOUNDS);
-        check.same("nobody", look(new HalfHands(), 0, 0), OUT_OF_BOUNDS);
+        check.all("a", Check.person(hands, 0), 5, 0, 3, 3, 1, 2, 0);
+        check.all("b", Check.person(hands, 1), 99, 77, 1, 0, -1, -1, 0);
+        check.same("c hands to", Check.look(hands, 2, 3), -1);
+        check.same("c hands next", Check.look(hands, 2, 6), 0);
+        check.same("what 7", Check.look(hands, 0, 7), Check.NO_SUCH);
+        check.same("what -1", Check.look(hands, 0, -1), Check.NO_SUCH);
+        check.same("person 4", Check.look(hands, 4, 0), Check.OUT_OF_BOUNDS);
+        check.same("person -1", Check.look(hands, -1, 0), Check.OUT_OF_BOUNDS);
+        check.same("both wrong", Check.look(hands, 4, 7), Check.OUT_OF_BOUNDS);
+        check.same("nobody", Check.look(new HalfHands(), 0, 0), Check.OUT_OF_BOUNDS);
     }
 
     private static void alongAChain() {
         HalfHands hands = Check.told("person a 50 purse 2;person b 30;person c 40;hands a to b;hands b to c;"
                 + "parcel a 7 2;");
-        check.all("not sent", parcel(hands, 0), 0, 7, 2, 0, 0, 0, -1);
+        check.all("not sent", Check.parcel(hands, 0), 0, 7, 2, 0, 0, 0, -1);
         check.same("rest", hands.rest(), 5);
         check.same("coins", hands.coins(), 2);
         check.same("hours(2)", hands.hours(2), 2);
-        check.all("not sent yet", parcel(hands, 0), 0, 7, 2, 0, 0, 0, -1);
+        check.all("not sent yet", Check.parcel(hands, 0), 0, 7, 2, 0, 0, 0, -1);
         check.same("hours(1)", hands.hours(1), 3);
-        check.all("sent", parcel(hands, 0), 0, 7, 2, 1, 7, 0, 1);
-        check.same("a pays nothing", look(hands, 0, 1), 2);
+        check.all("sent", Check.parcel(hands, 0), 0, 7, 2, 1, 7, 0, 1);
+        check.same("a pays nothing", Check.look(hands, 0, 1), 2);
         check.same("coins", hands.coins(), 9);
         check.same("rest", hands.rest(), 2);
         hands.hours(1);
-        check.all("b is younger: the odd one goes on", parcel(hands, 0), 0, 7, 2, 1, 4, 1, 2);
-        check.same("b has", look(hands, 1, 1), 3);
+        check.all("b is younger: the odd one goes on", Check.parcel(hands, 0), 0, 7, 2, 1, 4, 1, 2);
+        check.same("b has", Check.look(hands, 1, 1), 3);
         hands.hours(1);
-        check.all("at rest", parcel(hands, 0), 0, 7, 2, 2, 0, 2, -1);
-        check.same("c has", look(hands, 2, 1), 4);
+        check.all("at rest", Check.parcel(hands, 0), 0, 7, 2, 2, 0, 2, -1);
+        check.same("c has", Check.look(hands, 2, 1), 4);
         check.same("coins", hands.coins(), 9);
         check.same("rest", hands.rest(), 0);
         hands.hours(300);
-        check.all("it stays at rest", parcel(hands, 0), 0, 7, 2, 2, 0, 2, -1);
+        check.all("it stays at rest", Check.parcel(hands, 0), 0, 7, 2, 2, 0, 2, -1);
         check.same("parcel 1", hands.parcel(1, 0), -1);
         check.same("parcel -1", hands.parcel(-1, 0), -1);
         check.same("what 7", hands.parcel(0, 7), -1);
@@ -94,8 +65,8 @@ public final class JourneyTest {
         HalfHands hands = Check.told("person a 1 purse 3;parcel a 5 1;");
         check.same("rest", hands.rest(), 2);
         hands.hours(2);
-        check.all("stays his", parcel(hands, 0), 0, 5, 1, 2, 0, 0, -1);
-        check.same("purse", look(hands, 0, 1), 8);
+        check.all("stays his", Check.parcel(hands, 0), 0, 5, 1, 2, 0, 0, -1);
+        check.same("purse", Check.look(hands, 0, 1), 8);
     }
 
     private static void forks() {
@@ -104,15 +75,15 @@ public final class JourneyTest {
         hands.hours(1);
         check.same("first to b", hands.parcel(0, 6), 1);
         check.same("second to c", hands.parcel(1, 6), 2);
-        check.same("turn", look(hands, 0, 6), 2);
+        check.same("turn", Check.look(hands, 0, 6), 2);
         hands.hours(1);
         check.same("third to d", hands.parcel(2, 6), 3);
         check.same("fourth to b again", hands.parcel(3, 6), 1);
-        check.same("turn", look(hands, 0, 6), 1);
+        check.same("turn", Check.look(hands, 0, 6), 1);
         hands.hours(2);
-        check.same("b", look(hands, 1, 1), 50);
-        check.same("c", look(hands, 2, 1), 70);
-        check.same("d", look(hands, 3, 1), 30);
+        check.same("b", Check.look(hands, 1, 1), 50);
+        check.same("c", Check.look(hands, 2, 1), 70);
+        check.same("d", Check.look(hands, 3, 1), 30);
     }
 
     private static void sentAheadOfWhatComes() {
@@ -125,24 +96,24 @@ public final class JourneyTest {
         check.same("and did not come in the same hour", hands.parcel(1, 5), 0);
         check.same("then what came, to c", hands.parcel(0, 6), 2);
         check.same("halved", hands.parcel(0, 4), 4);
-        check.same("turn", look(hands, 0, 6), 0);
+        check.same("turn", Check.look(hands, 0, 6), 0);
     }
 
     private static void zeroLeftHandsNothingOn() {
         HalfHands hands = Check.told("person a 1;person b 1;person c 1;person d 1;hands a to b;hands b to c or d;"
                 + "law 1;parcel a 1 0;parcel a 3 0;");
         hands.hours(2);
-        check.all("kept whole", parcel(hands, 0), 0, 1, 0, 2, 0, 1, -1);
-        check.all("the next one goes to the first", parcel(hands, 1), 0, 3, 0, 1, 1, 1, 2);
-        check.same("turn", look(hands, 1, 6), 1);
-        check.same("b has", look(hands, 1, 1), 3);
+        check.all("kept whole", Check.parcel(hands, 0), 0, 1, 0, 2, 0, 1, -1);
+        check.all("the next one goes to the first", Check.parcel(hands, 1), 0, 3, 0, 1, 1, 1, 2);
+        check.same("turn", Check.look(hands, 1, 6), 1);
+        check.same("b has", Check.look(hands, 1, 1), 3);
     }
 
     private static int keptByB(String law, int coins, int hour) {
         HalfHands hands = Check.told("person a 1;person b 60;person c 40;person d 50;hands a to b;hands b to c;"
                 + "hands c to d;" + law + "parcel a " + coins + " " + hour + ";");
         hands.hours(hour + 2);
-        return look(hands, 1, 1);
+        return Check.look(hands, 1, 1);
     }
 
     private static void laws() {
@@ -163,9 +134,9 @@ public final class JourneyTest {
         HalfHands hands = Check.told("person a 1;person b 1;person c 1;person d 1;hands a to b;hands b to c;"
                 + "hands c to d;law place=2;parcel a 7 0;");
         hands.hours(4);
-        check.same("b at place 1", look(hands, 1, 1), 3);
-        check.same("c at place 2", look(hands, 2, 1), 2);
-        check.same("d", look(hands, 3, 1), 2);
+        check.same("b at place 1", Check.look(hands, 1, 1), 3);
+        check.same("c at place 2", Check.look(hands, 2, 1), 2);
+        check.same("d", Check.look(hands, 3, 1), 2);
         HalfHands fork = Check.told("person a 1;person b 5;person c 9;person d 1;hands a to b;hands b to c or d;"
                 + "parcel a 5 0;parcel a 5 0;");
         fork.hours(2);
@@ -183,7 +154,7 @@ public final class JourneyTest {
         hands.hours(1);
         check.same("100 hands", hands.parcel(0, 5), 100);
         check.same("at rest", hands.parcel(0, 3), 2);
-        check.same("the hundredth is b", look(hands, 1, 1), 1);
+        check.same("the hundredth is b", Check.look(hands, 1, 1), 1);
     }
 
     private static void hourBounds() {
@@ -213,9 +184,9 @@ public final class JourneyTest {
         check.same("coins 100000", hands.send(0, 100000), -1);
         hands.hours(5);
         check.same("number", hands.send(0, 99999), 1);
-        check.all("not sent yet", parcel(hands, 1), 0, 99999, 5, 0, 0, 0, -1);
+        check.all("not sent yet", Check.parcel(hands, 1), 0, 99999, 5, 0, 0, 0, -1);
         hands.hours(1);
-        check.all("sent", parcel(hands, 1), 0, 99999, 5, 1, 99999, 0, 1);
+        check.all("sent", Check.parcel(hands, 1), 0, 99999, 5, 1, 99999, 0, 1);
         for (int i = 2; i < 30; i++) {
             check.same("number", hands.send(1, 1), i);
         }
