@@ -28,6 +28,7 @@ public final class EdgeJourneyTest {
         statesOfAParcel();
         allCoins();
         restOfNone();
+        restFromAnyone();
         restOfEach();
         restIsTheLongest();
         check.end();
@@ -364,6 +365,23 @@ public final class EdgeJourneyTest {
         check.same("sent by call", hands.rest(), 1);
         check.same("of the last HOUR", sentAt(3000).rest(), 3);
         check.same("of the one ahead", sentAt(2999).rest(), 3);
+    }
+
+    /** Promise 11: from whomever it is, and whichever is last. */
+    private static void restFromAnyone() {
+        for (int from = 0; from < 4; from++) {
+            for (int hour = 0; hour < 3; hour++) {
+                HalfHands hands = Check.told(Check.people(4) + "hands a to b;hands b to c;hands c to d;parcel "
+                        + (char) ('a' + from) + " 8 " + hour + ";");
+                check.same("rest from " + from, hands.rest(), hour + 4 - from);
+                hands.hours(hour);
+                check.same("rest when it is next", hands.rest(), 4 - from);
+                hands.send(0, 8);
+                check.same("with one from a", hands.rest(), 4);
+                hands.hours(1);
+                check.same("an HOUR later", hands.rest(), 3);
+            }
+        }
     }
 
     private static HalfHands sentAt(int hour) {

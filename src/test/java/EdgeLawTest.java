@@ -10,6 +10,7 @@ public final class EdgeLawTest {
 
     public static void main(String[] args) {
         values();
+        beyondALong();
         below();
         byNought();
         cutTowardsNought();
@@ -57,6 +58,23 @@ public final class EdgeLawTest {
         value(TRILLION + ">=" + TRILLION, 1);
         value("not " + TRILLION, 0);
         value("not (" + TRILLION + "+1)", ERROR);
+    }
+
+    /** "VALUES are longs": a product that a long can't hold is an ERROR, too, whatever the long would hold then. */
+    private static void beyondALong() {
+        String power = "(4096*1024*1024)";
+        String least = "(0-4096*1024*1024)";
+        value(power, 4294967296L);
+        // of 2 to the 64 a long would hold 0
+        value(power + "*" + power, ERROR);
+        value(power + "*" + least, ERROR);
+        value(least + "*" + power, ERROR);
+        value(least + "*" + least, ERROR);
+        value(power + "*(2*4096*1024*1024)", ERROR);
+        value(power + "*" + power + "=0", ERROR);
+        // 2 to the 64 less 1 would be -1
+        value("(4096*1024*1024-1)*(4096*1024*1024+1)", ERROR);
+        value("(1-4096*1024*1024)*(4096*1024*1024+1)", ERROR);
     }
 
     /** "or below 0 by more than that". */

@@ -10,10 +10,12 @@ public final class EdgeOrdersTest {
 
     public static void main(String[] args) {
         whatOfBest();
+        eachByItself();
         oneOrder();
         ofSeveralTheFirst();
         leastPersonAhead();
         betweenTwoNumbers();
+        namesInAnOrder();
         numberOfJust();
         howManyOrders();
         noOrder();
@@ -44,6 +46,24 @@ public final class EdgeOrdersTest {
             check.bounds("what of best", 0, 1, -1, what -> hands.best(n, TEN, 9, what));
             check.bounds("what of order", 0, 1, -1, what -> hands.order(n, TEN, 9, what));
         }
+    }
+
+    /** Each call on a new object, so that it finds nothing of another one. */
+    private static void eachByItself() {
+        String law = "law place=2 and age=11;";
+        long row = Check.row(0, 1, 2, 3, 4);
+        check.same("most", Check.told(Check.people(5) + law).best(5, row, 2, 0), 1);
+        check.same("least", Check.told(Check.people(5) + law).best(5, row, 2, 1), 0);
+        check.same("best", Check.told(Check.people(5) + law).order(5, row, 2, 0), row);
+        check.same("worst", Check.told(Check.people(5) + law).order(5, row, 2, 1), Check.row(0, 2, 1, 3, 4));
+        check.same("just", Check.told(Check.people(5) + law).just(5, row, 2, 0), 2);
+        check.same("first", Check.told(Check.people(5) + law).first(5, row, 2, 0), Check.row(0, 2, 1, 3, 4));
+        check.same("gains", Check.told(Check.people(5) + law).gains(5, row, 2, 1, 0), 1);
+        check.same("at which place", Check.told(Check.people(5) + law).gains(5, row, 2, 1, 1), 1);
+        check.same("changes", Check.told(Check.people(5) + law).changes(5, row, 2, 0), 1);
+        check.same("changed", Check.told(Check.people(5) + law).changed(5, row, 2, 0), Check.row(0, 2, 1, 3, 4));
+        check.same("worth", Check.told(Check.people(5) + law).worth(5, row, 2, 1), -1);
+        check.same("serves", Check.told(Check.people(5) + law).serves(5, Check.row(0, 2, 1, 3, 4), 9), 1);
     }
 
     /** "its CARRIERS in all orders": of none and of one CARRIER there is one. */
@@ -108,9 +128,34 @@ public final class EdgeOrdersTest {
         check.same("256, least", hands.best(10, TEN, 256, 1), 1);
         check.same("257, most", hands.best(10, TEN, 257, 0), 2);
         check.same("257, least", hands.best(10, TEN, 257, 1), 1);
+        HalfHands one = Check.told("person a 50;person b 30;person c 40;person d 20;");
+        check.same("one ORDER alone is worst", one.just(4, 0x3210, 43, 10), 1);
+        check.same("least", one.best(4, 0x3210, 43, 1), 10);
+        check.same("one ORDER alone is best", one.just(4, 0x3210, 43, 11), 1);
+        check.same("most", one.best(4, 0x3210, 43, 0), 11);
         check.same("0, most", hands.best(10, TEN, 0, 0), 0);
         check.same("999999, most", hands.best(10, TEN, 999999, 0), 3907);
         check.same("999999, least", hands.best(10, TEN, 999999, 1), 3906);
+    }
+
+    /** "by THE ODD ONE": coins and place are those in his HAND, the hour is 0. */
+    private static void namesInAnOrder() {
+        // 5 coins: 3 go on, of which he keeps 2; 4 and 6 coins: 2 and 3
+        HalfHands coins = Check.told(Check.people(4) + "law coins=3;");
+        int[] due = {0, 1, 1, 1, 1, 1, 1, 2, 2};
+        for (int sent = 0; sent < due.length; sent++) {
+            check.same("most of " + sent, coins.best(4, 0x3210, sent, 0), due[sent]);
+            check.same("least of " + sent, coins.best(4, 0x3210, sent, 1), due[sent]);
+            check.same("as it ARRIVES", coins.arrives(4, 0x3210, sent), due[sent]);
+        }
+        HalfHands never = Check.told(Check.people(4) + "law hour;");
+        HalfHands always = Check.told(Check.people(4) + "law hour=0;");
+        never.hours(1);
+        always.hours(1);
+        check.same("hour, most", never.best(4, 0x3210, 3, 1), 1);
+        check.same("hour 0, least", always.best(4, 0x3210, 3, 0), 0);
+        check.same("hour, he keeps", never.gains(4, 0x3210, 3, 1, 0), 1);
+        check.same("hour 0, he keeps", always.gains(4, 0x3210, 3, 1, 0), 2);
     }
 
     /** Promise 18: "NONE: no such ones (t 0 .. 999999)"; promise 19 likewise. */

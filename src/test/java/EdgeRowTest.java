@@ -166,6 +166,10 @@ public final class EdgeRowTest {
         check.same("of 1 coin", hands.keeps(3, TEN, 1, 1), 0);
         check.same("of 1 coin, older", hands.keeps(3, 0x120, 1, 1), 1);
         check.same("of the most", hands.keeps(3, 0x120, 999999, 1), 500000);
+        HalfHands never = Check.told(Check.people(3) + "law hour;");
+        HalfHands always = Check.told(Check.people(3) + "law hour=0;");
+        check.same("the hour is 0", never.keeps(3, 0x210, 7, 1), 3);
+        check.same("the hour is 0", always.keeps(3, 0x210, 7, 1), 4);
     }
 
     private static void keepsAllTogether() {

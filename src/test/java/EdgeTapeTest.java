@@ -12,6 +12,8 @@ public final class EdgeTapeTest {
         emptyThen();
         emptyText();
         anew();
+        anewUnderWay();
+        nothingOfTextsAhead();
         withAFault();
         tapeStays();
         latestText();
@@ -190,6 +192,54 @@ public final class EdgeTapeTest {
         hands.note(2, 0x10, 3, 9, 9);
         check.same("all KNOWN", hands.count(6), 2);
         check.same("by both it can't be", hands.fits(), 0);
+    }
+
+    /** Promise 3: PARCELS that were under way are so no longer. */
+    private static void anewUnderWay() {
+        String text = "person a 1;person b 1;person c 1;hands a to b or c;hands b to c;parcel a 8 0;parcel a 6 0;"
+                + "parcel a 2 0;";
+        HalfHands hands = Check.told(text);
+        hands.hours(2);
+        hands.send(0, 9);
+        check.all("under way", Check.parcel(hands, 0), 0, 8, 0, 1, 4, 1, 2);
+        check.same("turn", hands.look(0, 6), 1);
+        check.same("the same text", Check.tell(hands, text), 8);
+        int[] coins = {8, 6, 2};
+        for (int parcel = 0; parcel < 3; parcel++) {
+            check.all("PARCEL " + parcel, Check.parcel(hands, parcel), 0, coins[parcel], 0, 0, 0, 0, -1);
+        }
+        check.same("PARCEL 3", hands.parcel(3, 0), -1);
+        for (int person = 0; person < 3; person++) {
+            check.same("purse of " + person, hands.look(person, 1), 0);
+            check.same("turn of " + person, hands.look(person, 6), 0);
+        }
+        check.same("coins", hands.coins(), 0);
+        check.same("under way", hands.count(7), 0);
+        check.same("at rest", hands.count(8), 0);
+        check.same("rest", hands.rest(), 3);
+    }
+
+    /** Promise 3: of TEXTS ahead, right ones and those with a FAULT, nothing is left. */
+    private static void nothingOfTextsAhead() {
+        String sum = "0" + Check.times(29, "+1");
+        String full = "person a 1 purse 5;person b 2 purse 6;hands a to b;hands b to a;parcel a 7 0;may m 1;law " + sum
+                + ";";
+        HalfHands hands = new HalfHands();
+        for (int i = 0; i < 6; i++) {
+            check.same("full", Check.tell(hands, full), 7);
+            check.same("its law", hands.law(0, 0, 0, 0, 0), 29);
+            check.same("with a FAULT", Check.tell(hands, full + "!"), -1);
+            check.same("the law stays", hands.law(0, 0, 0, 0, 0), 29);
+            check.same("bare", Check.tell(hands, "person a 3;person b 4;"), 2);
+            check.all("a", Check.person(hands, 0), 3, 0, 0, -1, -1, -1, 0);
+            check.all("b", Check.person(hands, 1), 4, 0, 0, -1, -1, -1, 0);
+            int[] counts = {2, 0, 0, 0, 0, 0, 0, 0, 0, 0};
+            for (int what = 0; what <= 9; what++) {
+                check.same("count(" + what + ") of a bare text", hands.count(what), counts[what]);
+            }
+            check.same("no law", hands.law(0, 0, 0, 0, 0), Long.MIN_VALUE);
+            check.same("no MAY", hands.named(1, Check.letters("m")), -1);
+        }
     }
 
     /** Promise 3: "NONE with a FAULT, all stays". */

@@ -358,6 +358,9 @@ public final class EdgeTextTest {
         check.faulty("law " + Check.times(8, "("), 1, 12);
         String eight = Check.times(8, "(") + "1" + Check.times(8, ")");
         check.faultless("law " + eight + "+" + eight + ";may a " + eight + ";", 2);
+        check.marked(2, "may a " + Check.times(8, "(") + "^(1" + Check.times(9, ")") + ";");
+        check.faultless("may a " + eight + ";may b " + eight + ";", 2);
+        check.marked(2, "law 1;may a 1+" + Check.times(8, "(") + "^(1" + Check.times(9, ")") + ";");
         check.faultless("law " + Check.times(7, "(") + "1+(1)+(1)" + Check.times(7, ")") + ";", 1);
         check.faulty("law " + Check.times(8, "(") + "1+(1)" + Check.times(8, ")") + ";", 2, 14);
         check.faulty("law " + Check.times(8, "(") + "1 (", 1, 14);
@@ -375,12 +378,18 @@ public final class EdgeTextTest {
         String mays = "may a 1;may b 1;may c 1;may d 1" + Check.times(30, "+1") + ";";
         check.same("64 of all MAY", Check.told(mays).count(3), 64);
         check.marked(2, mays + "law ^1;");
+        check.same("all 64 count for its value", Check.told("may a 1;" + SUM + ";").law(0, 0, 0, 0, 0), 32);
+        check.same("the 64th alone", lawOf("may a 1" + Check.times(31, "+1") + ";law coins;"), 5);
         check.same("brackets are none", Check.told(SUM + ";may a ((((1))));").count(3), 64);
         HalfHands hands = Check.told("law 1;");
         Check.tell(hands, "law 1+1+1;law");
         check.same("those of a text with a fault don't count", hands.count(3), 1);
         check.same("nor do those of a text ahead", Check.tell(hands, SUM + ";"), 1);
         check.same("count", hands.count(3), 63);
+    }
+
+    private static long lawOf(String text) {
+        return Check.told(text).law(5, 0, 0, 0, 0);
     }
 
     private static void knotsOfEachKind() {

@@ -26,6 +26,7 @@ public final class EdgeTrialTest {
         imageOfANewObject();
         imageAtTheEnds();
         allButNotes();
+        sentBehindTheImage();
         fullAgain();
         whatOfCount();
         countsAtTheEnds();
@@ -301,6 +302,22 @@ public final class EdgeTrialTest {
         none.note(3, 0x210, 4, 9, 9);
         none.again();
         check.same("of an IMAGE without NOTES", none.count(5), 1);
+    }
+
+    /** A PARCEL that is sent behind the IMAGE is a new one, whatever had its number ahead. */
+    private static void sentBehindTheImage() {
+        HalfHands hands = Check.told(Check.people(3) + "hands a to b;hands b to c;");
+        hands.keep();
+        hands.send(0, 8);
+        hands.hours(2);
+        check.all("under way", Check.parcel(hands, 0), 0, 8, 0, 1, 4, 1, 2);
+        hands.again();
+        check.same("none", hands.parcel(0, 0), -1);
+        check.same("its number", hands.send(1, 9), 0);
+        check.all("not sent yet", Check.parcel(hands, 0), 1, 9, 0, 0, 0, 0, -1);
+        check.same("coins", hands.coins(), 0);
+        hands.hours(1);
+        check.all("sent", Check.parcel(hands, 0), 1, 9, 0, 1, 9, 0, 2);
     }
 
     /** With 30 PARCELS in the IMAGE or behind it. */
