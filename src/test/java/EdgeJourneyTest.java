@@ -121,6 +121,7 @@ public final class EdgeJourneyTest {
         check.same("all coins", more.coins(), 99999);
     }
 
+    /** "it has been in 100 HANDS .., he keeps all; else THE ODD ONE": the 99th by the law, the 100th without it. */
     private static void hundredthHandsToNobody() {
         HalfHands hands = Check.told("person a 1;person b 1;hands a to b;hands b to a;parcel a 1 0;law place=99;");
         hands.hours(99);

@@ -142,6 +142,7 @@ public final class EdgeNotesTest {
         check.same("but the second strike's is struck", hands.fits(), 1);
     }
 
+    /** "asked from the last one on": each STRIKE strikes the one ahead, up to the 40th NOTE. */
     private static void chainOfStrikes() {
         HalfHands hands = Check.told(THREE);
         hands.note(3, ROW, 4, 9, 9);
@@ -314,6 +315,7 @@ public final class EdgeNotesTest {
         check.same("984", apart(6, "may x place<4 or coins=123;may y place<4;"), 984);
     }
 
+    /** Promise 31: "-2: by none". */
     private static void apartOfAlike() {
         check.same("one law and the same", Check.told(THREE + "may x 1;").apart(3, ROW, 0, 0), -2);
         check.same("the law and itself", Check.told(THREE).apart(3, ROW, 0, 0), -2);

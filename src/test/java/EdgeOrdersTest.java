@@ -239,6 +239,7 @@ public final class EdgeOrdersTest {
         return gains;
     }
 
+    /** Promise 21, of the one ORDER that there is. */
     private static void gainsOfOne() {
         HalfHands hands = ten("");
         check.all("of one CARRIER", gains(hands, 3, Check.row(0, 5, 3), 9, 5), 5, 1, 5, 1);
@@ -302,6 +303,7 @@ public final class EdgeOrdersTest {
         }
     }
 
+    /** "the fewest so that just t ARRIVES": none at least, all pairs at most. */
     private static void mostChanges() {
         HalfHands hands = ten("");
         check.same("all of eight", hands.changes(10, LAST, 1, 1), 28);
@@ -325,6 +327,7 @@ public final class EdgeOrdersTest {
         check.same("c, b, d", hands.changed(5, Check.row(0, 2, 1, 3, 4), 2, 1), Check.row(0, 1, 2, 3, 4));
     }
 
+    /** "the fewest": none, if it is so already, though other ORDERS that do it come first. */
     private static void noChange() {
         HalfHands hands = ten("law 0;");
         check.same("no change is needed", hands.changes(10, LAST, 5, 1), 0);
@@ -359,6 +362,7 @@ public final class EdgeOrdersTest {
         check.same(law + " fewer ARRIVE", hands.arrives(4, 0x3210, number) < hands.best(4, 0x3210, number, 0), true);
     }
 
+    /** Promise 25: "SERVES ..: 0, or the number that refutes it". */
     private static void servesAlways() {
         HalfHands hands = ten("");
         check.same("rising", hands.serves(10, TEN, 50), 0);

@@ -172,6 +172,7 @@ public final class EdgeRowTest {
         check.same("the hour is 0", always.keeps(3, 0x210, 7, 1), 4);
     }
 
+    /** "who keeps what": with what ARRIVES it is all. */
     private static void keepsAllTogether() {
         HalfHands hands = ten("law coins%3;");
         for (int coins : new int[] {0, 1, 255, 256, 257, 999998, 999999}) {
@@ -323,6 +324,7 @@ public final class EdgeRowTest {
         }
     }
 
+    /** Promise 20: "what 0: at most, 1: at least. NONE: no such ones." */
     private static void whatOfBound() {
         HalfHands hands = new HalfHands();
         check.bounds("what of bound", 0, 1, -1, what -> hands.bound(3, 9, what));

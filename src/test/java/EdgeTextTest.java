@@ -392,6 +392,7 @@ public final class EdgeTextTest {
         return Check.told(text).law(5, 0, 0, 0, 0);
     }
 
+    /** "(N, NAMES, signs, not, and, or: one each)": each as the 64th and as the 65th. */
     private static void knotsOfEachKind() {
         String less = "law 1" + Check.times(30, "+1") + ";";
         for (String name : new String[] {"coins", "age", "next", "elder", "place", "hour", "0", "9999"}) {

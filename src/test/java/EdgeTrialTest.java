@@ -54,6 +54,7 @@ public final class EdgeTrialTest {
         check.bounds("what", 0, 5, -1, what -> hands.tried(what, 0, 3));
     }
 
+    /** "0 PERSON i hands to nobody", "3 PERSON i keeps all odd ones": no such PERSON. */
     private static void whoIsTried() {
         for (int people : new int[] {1, 2, 9, 10}) {
             HalfHands hands = Check.told(Check.people(people));
@@ -63,6 +64,7 @@ public final class EdgeTrialTest {
         check.same("nobody", new HalfHands().tried(0, 0, 0), -1);
     }
 
+    /** "5 PARCEL i isn't sent": no such PARCEL. */
     private static void whoseParcel() {
         HalfHands hands = Check.told("person a 1;");
         check.same("no PARCEL", hands.tried(5, 0, 0), -1);
@@ -129,6 +131,7 @@ public final class EdgeTrialTest {
         check.all("stays", purses(hands, 0, 0), 8, 0);
     }
 
+    /** "0 PERSON i hands to nobody". */
     private static void handsToNobody() {
         HalfHands hands = world();
         hands.hours(9);
@@ -157,6 +160,7 @@ public final class EdgeTrialTest {
         }
     }
 
+    /** "2 the first of those to whom each hands alone". */
     private static void firstAlone() {
         HalfHands hands = Check.told(Check.people(4) + "hands a to d or c or b;parcel a 1 0;parcel a 2 0;parcel a 4 0;"
                 + "parcel a 8 0;");
@@ -165,6 +169,7 @@ public final class EdgeTrialTest {
         check.all("as it is", purses(hands, 4, 0), 0, 4, 2, 9);
     }
 
+    /** "3 PERSON i keeps all odd ones". */
     private static void keepsAllOddOnes() {
         HalfHands hands = world();
         hands.hours(9);
@@ -178,6 +183,7 @@ public final class EdgeTrialTest {
         check.all("as it is", purses(error, 3, 0), 0, 0, 1);
     }
 
+    /** "4 no odd one is kept". */
     private static void noOddOne() {
         HalfHands hands = world();
         hands.hours(9);
@@ -199,6 +205,7 @@ public final class EdgeTrialTest {
         check.same("4", hands.tried(5, 4, 1), -1);
     }
 
+    /** "it has been in 100 HANDS (this one told)": when it is tried, too. */
     private static void hundredHandsTried() {
         HalfHands hands = Check.told("person a 1;person b 1;hands a to b;hands b to a;parcel a 1 0;law 1;");
         hands.hours(100);
@@ -242,6 +249,7 @@ public final class EdgeTrialTest {
         check.same("again", hands.again(), 6);
     }
 
+    /** Promises 33, 34, without a TEXT. */
     private static void imageOfANewObject() {
         HalfHands hands = new HalfHands();
         check.same("keep", hands.keep(), 0);
@@ -251,6 +259,7 @@ public final class EdgeTrialTest {
         check.same("hours", hands.hours(1), 1);
     }
 
+    /** Promises 33, 34, at HOUR 0 and at HOUR 3000. */
     private static void imageAtTheEnds() {
         HalfHands hands = world();
         for (int i = 0; i < 10; i++) {
