@@ -27,9 +27,14 @@ final class Check {
             padded.append(' ');
         }
         for (int i = 0; i < padded.length(); i += 20) {
-            hands.feed(four(padded, i), four(padded, i + 4), four(padded, i + 8), four(padded, i + 12),
-                    four(padded, i + 16));
+            feed(hands, padded, i);
         }
+    }
+
+    /** Feeds the twenty bytes of a text from a place on. */
+    static int feed(HalfHands hands, CharSequence text, int at) {
+        return hands.feed(four(text, at), four(text, at + 4), four(text, at + 8), four(text, at + 12),
+                four(text, at + 16));
     }
 
     private static int four(CharSequence text, int at) {

@@ -4,21 +4,34 @@ import java.util.Random;
 public final class CompareTest {
     private static final Check check = new Check();
 
-    private final Random random;
-    private final HalfHands hands;
-    private final Oracle oracle;
-    private final int people;
-    private final int mays;
-    private final int mostCarriers;
-    private final String run;
+    /** Some of them are two or three of an object's 512, and the feeding of a text comes on top. */
+    private static final int MOST_CALLS = 420;
 
-    private CompareTest(int seed, String text, int mostCarriers) {
+    private final Random random;
+    private final int seed;
+    private final HalfHands hands;
+    private Oracle oracle;
+    private int people;
+    private int mays;
+    private final int mostCarriers;
+    private String run;
+    /** What is on the TAPE, and the FAULT of the latest text, as they are due. */
+    private final StringBuilder tape = new StringBuilder();
+    private int faultKind;
+    private int faultPlace = -1;
+
+    private CompareTest(int seed, HalfHands hands, String text, int mostCarriers) {
         random = new Random(seed);
-        hands = Check.told(text);
+        this.seed = seed;
+        this.hands = hands;
+        this.mostCarriers = mostCarriers;
+        begin(text);
+    }
+
+    private void begin(String text) {
         oracle = new Oracle(text);
         people = oracle.count(0);
         mays = oracle.count(2);
-        this.mostCarriers = mostCarriers;
         run = "seed " + seed + " '" + text + "': ";
     }
 
@@ -28,14 +41,17 @@ public final class CompareTest {
         }
         for (int seed = 0; seed < 700; seed++) {
             String text = new RandomText(new Random(seed)).right(seed % 11);
-            CompareTest test = new CompareTest(seed, text, 5);
-            for (int i = 0; i < 500; i++) {
+            CompareTest test = new CompareTest(seed, Check.told(text), text, 5);
+            for (int i = 0; i < MOST_CALLS; i++) {
                 test.call();
             }
         }
+        for (int seed = 0; seed < 700; seed++) {
+            new CompareTest(seed, new HalfHands(), "", 4).severalTexts();
+        }
         for (int seed = 1000; seed < 1006; seed++) {
             String text = new RandomText(new Random(seed)).right(10);
-            CompareTest test = new CompareTest(seed, text, 8);
+            CompareTest test = new CompareTest(seed, Check.told(text), text, 8);
             for (int i = 0; i < 60; i++) {
                 test.callOfRow();
             }
@@ -60,6 +76,82 @@ public final class CompareTest {
         check.same("text of '" + text + "'", Check.tell(hands, text), lines);
         check.same("fault(0) of '" + text + "'", hands.fault(0), kind);
         check.same("fault(1) of '" + text + "'", hands.fault(1), place);
+    }
+
+    /** All the calls of one object: texts come one behind another, with and without faults, and calls between them. */
+    private void severalTexts() {
+        int fed = 0;
+        for (int calls = 0; calls < MOST_CALLS; calls += fed + 1) {
+            fed = 0;
+            switch (random.nextInt(30)) {
+                case 0: {
+                    RandomText maker = new RandomText(random);
+                    String text = maker.right(random.nextInt(4));
+                    fed = feed(random.nextInt(3) == 0 ? maker.changed(text) : text);
+                    tell(tape.length());
+                    break;
+                }
+                case 1:
+                    fed = feed(new RandomText(random).right(random.nextInt(3)));
+                    break;
+                case 2:
+                    tell(pick(-1, tape.length() + 1));
+                    break;
+                case 3:
+                    tell(tape.lastIndexOf(";") + 1);
+                    break;
+                case 4: {
+                    int what = pick(-1, 2);
+                    int due = what == 0 ? faultKind : what == 1 ? faultPlace : -1;
+                    check.same(run + "fault " + what, hands.fault(what), due);
+                    break;
+                }
+                case 5: {
+                    int what = pick(-1, 2);
+                    int letters = Check.letters(RandomText.name(pick(0, 10)));
+                    check.same(run + "named " + what + " " + letters, hands.named(what, letters),
+                            oracle.named(what, letters));
+                    break;
+                }
+                default:
+                    call();
+                    break;
+            }
+        }
+    }
+
+    /** Feeds a text, as much of it as there is room for: how many calls that took. */
+    private int feed(String text) {
+        StringBuilder padded = new StringBuilder(text).append(" ".repeat((20 - text.length() % 20) % 20));
+        for (int i = 0; i < padded.length(); i += 20) {
+            boolean room = tape.length() + 20 <= 700;
+            if (room) {
+                tape.append(padded, i, i + 20);
+            }
+            check.same(run + "feed", Check.feed(hands, padded, i), room ? tape.length() : -1);
+        }
+        return padded.length() / 20;
+    }
+
+    private void tell(int n) {
+        String told = run + "text " + n + " of '" + tape + "'";
+        if (n < 0 || n > tape.length()) {
+            check.same(told, hands.text(n), -2);
+            return;
+        }
+        String text = tape.substring(0, n);
+        tape.setLength(0);
+        int lines = -1;
+        faultKind = 0;
+        faultPlace = -1;
+        try {
+            lines = new OracleText(text).lines;
+            begin(text);
+        } catch (OracleText.Fault fault) {
+            faultKind = fault.kind;
+            faultPlace = fault.place;
+        }
+        check.same(told, hands.text(n), lines);
     }
 
     private int pick(int low, int high) {

@@ -2,7 +2,10 @@ import java.lang.reflect.Constructor;
 import java.lang.reflect.Field;
 import java.lang.reflect.Method;
 import java.lang.reflect.Modifier;
+import java.util.ArrayList;
 import java.util.Arrays;
+import java.util.List;
+import java.util.NoSuchElementException;
 import java.util.Set;
 import java.util.TreeSet;
 
@@ -24,6 +27,7 @@ public final class FaceTest {
     public static void main(String[] args) {
         check.same("NONE", HalfHands.NONE, -1);
         face();
+        declared();
         rules(HalfHands.class);
         Class<?>[] inside = HalfHands.class.getDeclaredClasses();
         check.same("at most twelve classes", inside.length < 12, true);
@@ -47,9 +51,13 @@ public final class FaceTest {
             }
         }
         check.same("no method is lacking: " + due, due.size(), 0);
-        for (Method method : HalfHands.class.getDeclaredMethods()) {
-            boolean hides = !Modifier.isPublic(method.getModifiers()) && names.contains(method.getName());
-            check.same("bears the name of a public one: " + method, hides, false);
+        List<Class<?>> classes = new ArrayList<>(Arrays.asList(HalfHands.class.getDeclaredClasses()));
+        classes.add(HalfHands.class);
+        for (Class<?> one : classes) {
+            for (Method method : one.getDeclaredMethods()) {
+                boolean hides = !Modifier.isPublic(method.getModifiers()) && names.contains(method.getName());
+                check.same("bears the name of a public one: " + method, hides, false);
+            }
         }
         check.same("public and final", HalfHands.class.getModifiers(), Modifier.PUBLIC | Modifier.FINAL);
         Constructor<?>[] constructors = HalfHands.class.getDeclaredConstructors();
@@ -58,6 +66,21 @@ public final class FaceTest {
         for (Field field : HalfHands.class.getDeclaredFields()) {
             boolean shown = !Modifier.isPrivate(field.getModifiers());
             check.same("shown: " + field, shown, field.getName().equals("NONE"));
+        }
+    }
+
+    /** NONE as a constant, and what each call says that it may throw. */
+    private static void declared() {
+        for (Field field : HalfHands.class.getFields()) {
+            check.same("a constant: " + field, field.getModifiers(),
+                    Modifier.PUBLIC | Modifier.STATIC | Modifier.FINAL);
+            check.same("an int: " + field, field.getType() == int.class, true);
+        }
+        for (Method method : HalfHands.class.getDeclaredMethods()) {
+            List<Class<?>> thrown = Arrays.asList(method.getExceptionTypes());
+            List<Class<?>> due = method.getName().equals("look")
+                    ? List.of(IndexOutOfBoundsException.class, NoSuchElementException.class) : List.of();
+            check.same("throws: " + method, thrown.equals(due), true);
         }
     }
 

@@ -87,6 +87,21 @@ final class Oracle {
         return i >= 0 && i < told.people.size();
     }
 
+    int named(int what, int letters) {
+        List<String> names = new ArrayList<>();
+        if (what == 0) {
+            told.people.forEach(person -> names.add(person.name));
+        } else if (what == 1) {
+            names.addAll(told.mayNames);
+        }
+        for (String name : names) {
+            if (Check.letters(name) == letters) {
+                return names.indexOf(name);
+            }
+        }
+        return -1;
+    }
+
     int look(int person, int what) {
         OracleText.Person one = told.people.get(person);
         switch (what) {

@@ -58,7 +58,8 @@ final class RandomText {
         return text.length() > 700 || knots > 64 ? right(fewest) : text.toString();
     }
 
-    private static String name(int i) {
+    /** The name of a PERSON or a MAY. */
+    static String name(int i) {
         return "" + (char) ('a' + i) + (i % 3 == 1 ? "x" : "");
     }
 
